@@ -709,42 +709,29 @@ public final class SquareAlbum {
             return NONE;
         }
 
-        /** Cells of a picture's view on the square that are no wall, as bits by their turn in the view. */
-        private long groundOf(int i) {
+        /**
+         * Cells of a picture's view on the square that are no wall, as bits by their turn in the view: all of them, or
+         * only those that it has not hidden and without people.
+         */
+        private long groundOf(int i, boolean mustBeEmpty) {
+            int x = ofPicture(i, X);
+            int y = ofPicture(i, Y);
             int way = ofPicture(i, WAY);
             long ground = 0;
             int turn = 0;
+            standAt(ofPicture(i, SECOND));
             for (int ahead = 1; ahead <= ofPicture(i, REACH); ahead++) {
                 for (int side = -(ahead / 2); side <= ahead / 2; side++) {
-                    int x = ofPicture(i, X) + goneX(way, ahead, side);
-                    int y = ofPicture(i, Y) + goneY(way, ahead, side);
-                    if (isGround(x, y)) {
+                    int cellX = x + goneX(way, ahead, side);
+                    int cellY = y + goneY(way, ahead, side);
+                    boolean isEmpty = isEmptyGround(cellX, cellY) && stateOfCell(x, y, way, ahead, side) == SHOWN;
+                    if (mustBeEmpty ? isEmpty : isGround(cellX, cellY)) {
                         ground |= 1L << turn;
                     }
                     turn++;
                 }
             }
             return ground;
-        }
-
-        /** Cells of a picture's view that it has not hidden and without people, by the same turns. */
-        private long emptyCellsOf(int i) {
-            int x = ofPicture(i, X);
-            int y = ofPicture(i, Y);
-            int way = ofPicture(i, WAY);
-            long found = 0;
-            int turn = 0;
-            standAt(ofPicture(i, SECOND));
-            for (int ahead = 1; ahead <= ofPicture(i, REACH); ahead++) {
-                for (int side = -(ahead / 2); side <= ahead / 2; side++) {
-                    boolean isEmpty = isEmptyGround(x + goneX(way, ahead, side), y + goneY(way, ahead, side));
-                    if (isEmpty && stateOfCell(x, y, way, ahead, side) == SHOWN) {
-                        found |= 1L << turn;
-                    }
-                    turn++;
-                }
-            }
-            return found;
         }
 
         private boolean isEmptyGround(int x, int y) {
@@ -766,7 +753,7 @@ public final class SquareAlbum {
             for (int j = 0; j < pictureCount; j++) {
                 if (haveOneView(i, j)) {
                     alike |= 1 << j;
-                    empties[j] = emptyCellsOf(j);
+                    empties[j] = groundOf(j, true);
                 }
             }
             return alike;
@@ -784,7 +771,7 @@ public final class SquareAlbum {
 
         int fewestForEmpty(int i) {
             int alike = findEmpties(i);
-            long ground = groundOf(i);
+            long ground = groundOf(i, false);
             int best = NONE;
             for (int set = 0; set <= alike; set++) {
                 boolean isOfAlike = (set & ~alike) == 0;
@@ -798,7 +785,7 @@ public final class SquareAlbum {
 
         int countNeverEmpty(int i) {
             int alike = findEmpties(i);
-            return Long.bitCount(groundOf(i) & ~emptyInSomeOf(alike));
+            return Long.bitCount(groundOf(i, false) & ~emptyInSomeOf(alike));
         }
 
         int waitOf(int i) {
@@ -870,15 +857,15 @@ public final class SquareAlbum {
         private static final int BY_SIDE = -1, NUMBER_MOST = 99, FAULT_BASE = -10;
         private static final int[] NUMBERS_OF = {2, 2, 6, 5};
         private static final int[] LEAST = {
-            3, 3, 0, 0, 0, 0,
+            SIDE_LEAST, SIDE_LEAST, 0, 0, 0, 0,
             0, 0, 0, 0, 0, 0,
             0, 0, 0, 0, 0, 0,
             0, 0, 0, 1, 0, 0};
         private static final int[] MOST = {
-            12, 12, 0, 0, 0, 0,
+            SIDE_MOST, SIDE_MOST, 0, 0, 0, 0,
             BY_SIDE, BY_SIDE, 0, 0, 0, 0,
-            BY_SIDE, BY_SIDE, 4, 99, 99, 9,
-            BY_SIDE, BY_SIDE, 3, 9, 99, 0};
+            BY_SIDE, BY_SIDE, WAYS, TOLD_SECOND_MOST, TOLD_SECOND_MOST, MARK_MOST,
+            BY_SIDE, BY_SIDE, WAYS - 1, REACH_MOST, TOLD_SECOND_MOST, 0};
 
         private final byte[] bytes = new byte[TEXT_MOST];
         private final int[] numbers = new int[ITEM_ROW];

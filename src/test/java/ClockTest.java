@@ -11,6 +11,7 @@ public final class ClockTest {
         seenEdges();
         joining();
         joiningInTheMiddle();
+        joiningAnew();
         forgetting();
         allInAll();
         DUE.end();
@@ -99,6 +100,16 @@ public final class ClockTest {
         dueRight("40 apart", a, 1, -20, 20, -20);
         a.fact(2, 99, 3, 0);
         dueRight("99 apart", a, 2, -20, 20, -20);
+        for (int clock = 1; clock <= 3; clock++) {
+            SquareAlbum c = new SquareAlbum();
+            c.fact(0, 0, clock, 20);
+            due("clock " + clock + " is 20 ahead", c.right(clock), 20);
+            due("and that holds", c.right(0), 0);
+            c.fact(clock, 70, 0, 90);
+            c.fact(clock, 70, 0, 90);
+            due("clock " + clock + " is 20 back", c.right(clock), -20);
+            due("and one does not hold", c.right(0), 1);
+        }
         SquareAlbum b = new SquareAlbum();
         b.fact(1, 41, 2, 0);
         dueRight("-41 apart", b, 1, -20, -20, -20);
@@ -172,6 +183,20 @@ public final class ClockTest {
         b.seen(2, 0, 1, 0);
         b.seen(0, 0, 1, 0);
         due("the first must not take the third", b.joined(), 2);
+    }
+
+    /** What could be joined earlier, must not count for others later. */
+    private static void joiningAnew() {
+        SquareAlbum a = new SquareAlbum();
+        a.seen(0, 0, 0, 0);
+        a.seen(0, 0, 5, 0);
+        a.seen(0, 0, 9, 0);
+        due("one", a.joined(), 1);
+        a.forget();
+        a.seen(0, 0, 0, 0);
+        a.seen(0, 0, 5, 1);
+        a.seen(0, 0, 9, 2);
+        due("three", a.joined(), 3);
     }
 
     private static void forgetting() {

@@ -10,6 +10,7 @@ public final class HatTest {
         nearSeconds();
         emptyOfOne();
         emptyOfSeveral();
+        fewestAheadOfLeast();
         emptyOfNoCells();
         emptyEdges();
         DUE.end();
@@ -101,6 +102,12 @@ public final class HatTest {
         due("from the corner by 11", a.near(0, 11, 11), 255);
         due("from the corner by 10", a.near(0, 11, 10), 255 - 64);
         due("another corner", a.near(0, 0, 4), 0);
+        SquareAlbum b = Due.album("person 0 0 4 0 99 0;person 7 7 4 0 99 0;picture 0 0 0 1 5;picture 0 0 0 1 6;");
+        b.has(0, 1);
+        b.has(1, 0);
+        due("the first cell by 1", b.near(1, 1, 1), 1);
+        due("the first cell by 11", b.near(0, 0, 11), 3);
+        due("the last cell by 1", b.near(6, 6, 1), 2);
     }
 
     private static void nearSeconds() {
@@ -146,6 +153,18 @@ public final class HatTest {
         SquareAlbum d = Due.album("person 0 4 4 0 0 0;person 4 4 4 1 0 0;person 2 4 4 2 0 0;picture 2 2 1 2 2;picture 2 2 1 2 2;"
                 + "picture 2 2 1 2 5;picture 2 2 1 2 1;picture 2 2 1 2 0;");
         due("of several the least", d.empty(4, 0), 4);
+    }
+
+    /** Fewer go ahead of lesser bits. */
+    private static void fewestAheadOfLeast() {
+        SquareAlbum a = Due.album("person 1 4 4 0 0 0;person 3 4 4 1 0 0;picture 2 2 1 2 0;picture 2 2 1 2 1;picture 2 2 1 2 7;"
+                + "picture 2 2 1 2 0;picture 2 2 1 2 8;");
+        due("one is fewer than two", a.empty(0, 0), 4);
+        SquareAlbum b = Due.album("person 1 4 4 0 0 0;person 3 4 4 1 0 0;person 2 4 4 2 0 0;person 3 4 4 2 0 0;picture 2 2 1 2 2;"
+                + "picture 2 2 1 2 1;picture 2 2 1 2 0;picture 2 2 1 2 1;");
+        due("shows(1)", b.shows(1), 2);
+        due("0 and 1 do not do, 0 and 2 do", b.empty(0, 0), 5);
+        due("by the last", b.empty(3, 0), 5);
     }
 
     private static void emptyOfNoCells() {

@@ -133,6 +133,17 @@ public final class KindTest {
         due("one seen again", a.joined(), 1);
         due("the hat again", a.hat(1), -9);
         a.forget();
+        a.fact(0, 0, 1, 9);
+        a.seen(5, 5, 5, 5);
+        a.keep(1);
+        a.back(0);
+        a.seen(0, 0, 1, 0);
+        due("the one seen is that of image 0", a.joined(), 1);
+        a.back(1);
+        a.seen(5, 5, 6, 5);
+        due("the one seen is that of image 1", a.joined(), 1);
+        due("the fact is that of image 1", a.right(1), 9);
+        a.forget();
         due("keep anew", a.keep(0), 0);
         due("back to what was kept last", a.back(0), 0);
         due("no facts", a.count(3), 0);

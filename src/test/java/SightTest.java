@@ -10,6 +10,7 @@ public final class SightTest {
         shapeOfView();
         hiding();
         sidesOfPaths();
+        sidesByWays();
         hiddenEdges();
         viewEdges();
         fromWhere();
@@ -141,6 +142,27 @@ public final class SightTest {
                 }
             }
         }
+    }
+
+    /** 6 ahead and 3 to the one side, by each way: only a wall 3 ahead and 1 to that side hides. */
+    private static void sidesByWays() {
+        int[][] ahead = {{1, 0}, {0, 1}, {-1, 0}, {0, -1}};
+        int[][] toRight = {{0, 1}, {-1, 0}, {0, -1}, {1, 0}};
+        for (int way = 0; way < 4; way++) {
+            for (int side = -1; side <= 1; side += 2) {
+                for (int walled = -1; walled <= 1; walled++) {
+                    String wall = at(ahead[way], toRight[way], 3, walled);
+                    String one = at(ahead[way], toRight[way], 5, 2 * side);
+                    SquareAlbum a = Due.album("square 12 12;wall " + wall + ";person " + one + " 4 0 0 0;picture 6 6 " + way + " 9 0;");
+                    due("way " + way + ", side " + side + ", wall " + walled, a.hidden(0, 0), walled == side ? 2 : 1);
+                    due("way " + way + ", side " + side + ", wall " + walled + ": shows", a.shows(0), walled == side ? 0 : 1);
+                }
+            }
+        }
+    }
+
+    private static String at(int[] ahead, int[] toRight, int a, int b) {
+        return (6 + a * ahead[0] + b * toRight[0]) + " " + (6 + a * ahead[1] + b * toRight[1]);
     }
 
     private static void hiddenEdges() {

@@ -12,6 +12,7 @@ public final class TextTest {
         tooMany();
         faultChangesNothing();
         readAnew();
+        readThrice();
         walls();
         people();
         pictures();
@@ -255,6 +256,28 @@ public final class TextTest {
         due("an empty text", a.square(), 0);
         due("no pictures", a.count(1), 0);
         due("facts and those seen stay", a.forget(), 2);
+    }
+
+    /** What an earlier text told must not come back, whichever one it was. */
+    private static void readThrice() {
+        String first = "square 5 6;wall 0 0;wall 4 5;person 1 1 4 0 9 0;person 2 1 4 0 9 0;picture 0 1 0 4 0;";
+        SquareAlbum a = Due.album(first);
+        due("first: on", a.on(1, 1, 3), 1);
+        due("second", Due.tell(a, "square 9 10;wall 0 0;person 8 8 4 0 9 0;picture 0 1 0 4 0;"), 4);
+        due("second: on", a.on(8, 8, 3), 1);
+        due("third", Due.tell(a, "person 3 3 4 0 9 0;"), 1);
+        int[] counts = {1, 0, 0, 0, 0, 0, 8, 8};
+        for (int what = 0; what < counts.length; what++) {
+            due("third: count(" + what + ")", a.count(what), counts[what]);
+        }
+        for (int cell = 0; cell < 64; cell++) {
+            due("third: wall of " + cell, a.wall(cell % 8, cell / 8), 0);
+            due("third: on " + cell, a.on(cell % 8, cell / 8, 3), cell == 27 ? 1 : 0);
+        }
+        due("the fourth is as the first", Due.tell(a, first), 6);
+        due("fourth: count(2)", a.count(2), 2);
+        due("fourth: shows(0)", a.shows(0), 1);
+        due("fourth: where", a.where(1, 3), 7);
     }
 
     private static void walls() {
