@@ -205,6 +205,8 @@ final class ClockBounds {
             eight.due(k + 1, "seen", k, 0, 5, 3).due(k + 1, "joined");
             alike.due(k + 1, "seen", 7, 7, 99, 9).due(1, "joined");
         }
+        // others, when those are forgotten
+        one.call("forget").call("seen", 0, 0, 0, 3).call("seen", 0, 0, 1, 4).call("seen", 0, 0, 2, 5).due(3, "joined");
         // two who cross: whoever is whom, they are two
         joins(2, new int[] {0, 0, 0, 1}, new int[] {4, 0, 0, 1}, new int[] {1, 0, 1, 1}, new int[] {3, 0, 1, 1},
                 new int[] {2, 0, 2, 1}, new int[] {2, 0, 2, 1}, new int[] {3, 0, 3, 1}, new int[] {1, 0, 3, 1});

@@ -254,7 +254,8 @@ final class HatBounds {
 
     private void near() {
         book.promise(22, "NEAR (r 0 .. 11) a cell, as bits. BAD; STATE.");
-        Run run = book.fullRun().due(3, "near", 0, 0, 11).due(0, "near", 4, 3, 0).due(2, "near", 0, 0, 0).due(2, "near", 1, 0, 0).due(0, "near", 2, 0, 0);
+        Run run = book.fullRun().due(3, "near", 0, 0, 11).due(0, "near", 4, 3, 0).due(2, "near", 0, 0, 0).due(2, "near", 1, 0, 0)
+                .due(0, "near", 2, 0, 0);
         long[][] bad = {{-1, 0, 0}, {5, 0, 0}, {0, -1, 0}, {0, 4, 0}, {0, 0, -1}, {0, 0, 12}, {LEAST, 0, 0}, {MOST, 0, 0},
             {0, LEAST, 0}, {0, MOST, 0}, {0, 0, LEAST}, {0, 0, MOST}};
         for (long[] numbers : bad) {

@@ -103,6 +103,12 @@ final class KindBounds {
             }
             run.due(20, "back", image).due(20, "count", 3);
         }
+        // what was kept comes back, though others have come in its place
+        Run others = book.run().call("fact", 0, 0, 1, 5).call("seen", 0, 0, 0, 0).call("seen", 7, 7, 14, 0).call("keep", 0)
+                .call("forget").call("fact", 0, 0, 1, 9).call("fact", 0, 0, 2, 9).call("seen", 1, 1, 1, 1).call("seen", 1, 1, 1, 2)
+                .call("keep", 1);
+        others.due(1, "back", 0).due(5, "right", 1).due(-20, "right", 2).due(1, "joined").due(2, "back", 1).due(9, "right", 1)
+                .due(9, "right", 2).due(2, "joined").due(1, "back", 0).due(5, "right", 1).due(1, "joined");
         // neither the text nor the trace
         book.fullRun().call("keep", 0).write(";").call("rate", 0, 0).call("back", 0).due(18, "count", 5).due(1101 + 1, "trace")
                 .due(2, "square");

@@ -344,6 +344,8 @@ final class SightBounds {
                 + "picture 0 1 0 9 0;picture 4 1 0 9 0;picture 0 1 0 1 0;");
         run.due(1, "hidden", 0, 0).due(3, "hidden", 0, 1).due(3, "hidden", 0, 2).due(0, "hidden", 0, 3).due(0, "hidden", 1, 0)
                 .due(0, "hidden", 1, 1).due(2, "hidden", 1, 2).due(0, "hidden", 2, 0);
+        // the picture's second counts, whatever second was asked for last
+        run.due(8, "on", 7, 1, 1).due(1, "hidden", 0, 0).due(0, "on", 7, 1, 0).due(8, "view", 6, 1, 0, 9, 1).due(3, "hidden", 0, 1);
         long[][] bad = {{-1, 0}, {3, 0}, {0, -1}, {0, 4}, {LEAST, 0}, {MOST, 0}, {0, LEAST}, {0, MOST}, {3, 4}, {-1, -1}};
         for (long[] numbers : bad) {
             run.refused(-1, "hidden", numbers);

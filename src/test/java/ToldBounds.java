@@ -96,6 +96,8 @@ final class ToldBounds {
         book.run().tell(THERE + "99 0 0;" + PICTURE + "99;").due(99, "told", 0, 2).due(99, "told", 0, 3);
         book.run().tell(THERE + "0 99 0;" + PICTURE + "50;" + PICTURE + "99;" + PICTURE + "0;" + PICTURE + "51;").due(0, "told", 0, 2)
                 .due(99, "told", 0, 3);
+        book.run().tell(THERE + "0 99 0;" + (PICTURE + "50;").repeat(8) + PICTURE + "49;" + PICTURE + "51;").due(49, "told", 0, 2)
+                .due(51, "told", 0, 3).due(10, "told", 0, 0);
         // pictures it is not in do not count
         book.run().tell(THERE + "5 4 0;" + PICTURE + "4;" + PICTURE + "9;" + PICTURE + "5;" + PICTURE + "10;").due(5, "told", 0, 2)
                 .due(9, "told", 0, 3);
