@@ -219,18 +219,7 @@ final class SquareBounds {
         book.fullRun().call("clear").due(0, "square").due(0, "count", 0).due(0, "count", 1).due(0, "count", 2).due(0, "count", 5)
                 .due(8, "count", 6).due(8, "count", 7).due(3, "count", 3).due(2, "count", 4);
         book.fullRun().call("clear").tell("square 3 3;wall 2 2;").due(0, "count", 5).due(0, "square").due(0, "wall", 2, 2);
-        // of two texts ahead of it nothing is left: no side, no wall, nobody, no picture
-        String first = "square 12 3;wall 0 0;wall 11 2;person 5 1 4 0 99 0;person 6 1 4 0 99 0;picture 4 1 0 9 7;picture 4 1 0 9 9;";
-        String second = "square 3 12;wall 0 0;wall 2 11;person 1 5 4 0 99 0;picture 0 5 0 9 8;";
-        Run third = book.run().tell(first).due(1, "on", 5, 1, 50).tell(second).due(1, "on", 1, 5, 50).tell("person 7 7 4 0 99 0;"
-                + "picture 6 7 0 1 5;").due(8, "count", 6).due(8, "count", 7).due(0, "count", 2).due(1, "count", 0).due(1, "count", 1);
-        for (int cell = 0; cell < 64; cell++) {
-            third.due(0, "wall", cell % 8, cell / 8).due(cell == 63 ? 1 : 0, "on", cell % 8, cell / 8, 50);
-        }
-        book.run().tell(first).due(1, "on", 5, 1, 50).tell(second).due(1, "on", 1, 5, 50).tell("person 7 7 4 0 99 0;")
-                .due(0, "on", 5, 1, 50).due(0, "on", 1, 5, 50).due(1, "on", 7, 7, 50).due(2, "from", 1, 1, 50, 0);
-        third.due(5, "told", 0, 2).due(5, "told", 0, 3).due(1, "told", 0, 0).due(-9, "told", 0, 1).tell(first).due(2, "count", 2)
-                .due(1, "shows", 0).due(7, "told", 0, 2).due(9, "told", 0, 3);
+        nothingIsLeft();
         String most = "wall 0 0;".repeat(44);
         book.sound(most + " ".repeat(4), 44);
         book.sound("person 0 0 0 0 0 0;".repeat(8) + "picture 0 0 0 1 0;".repeat(10) + "wall 0 0;".repeat(7) + " ".repeat(5), 25);
@@ -242,6 +231,21 @@ final class SquareBounds {
         // a fault, and the text mended after it by what comes behind
         book.fullRun().due(-10 - 17, "square").due(17, "count", 5).call("type", ';', 1).due(2, "square").due(1, "wall", 2, 2)
                 .due(1, "wall", 3, 0).due(-2, "back", 0);
+    }
+
+    /** Of two texts ahead of a third nothing is left: no side, no wall, nobody, no picture. */
+    private void nothingIsLeft() {
+        String first = "square 12 3;wall 0 0;wall 11 2;person 5 1 4 0 99 0;person 6 1 4 0 99 0;picture 4 1 0 9 7;picture 4 1 0 9 9;";
+        String second = "square 3 12;wall 0 0;wall 2 11;person 1 5 4 0 99 0;picture 0 5 0 9 8;";
+        Run third = book.run().tell(first).due(1, "on", 5, 1, 50).tell(second).due(1, "on", 1, 5, 50).tell("person 7 7 4 0 99 0;"
+                + "picture 6 7 0 1 5;").due(8, "count", 6).due(8, "count", 7).due(0, "count", 2).due(1, "count", 0).due(1, "count", 1);
+        for (int cell = 0; cell < 64; cell++) {
+            third.due(0, "wall", cell % 8, cell / 8).due(cell == 63 ? 1 : 0, "on", cell % 8, cell / 8, 50);
+        }
+        book.run().tell(first).due(1, "on", 5, 1, 50).tell(second).due(1, "on", 1, 5, 50).tell("person 7 7 4 0 99 0;")
+                .due(0, "on", 5, 1, 50).due(0, "on", 1, 5, 50).due(1, "on", 7, 7, 50).due(2, "from", 1, 1, 50, 0);
+        third.due(5, "told", 0, 2).due(5, "told", 0, 3).due(1, "told", 0, 0).due(-9, "told", 0, 1).tell(first).due(2, "count", 2)
+                .due(1, "shows", 0).due(7, "told", 0, 2).due(9, "told", 0, 3);
     }
 
     private void wall() {
